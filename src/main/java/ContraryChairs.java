@@ -248,7 +248,7 @@ public final class ContraryChairs {
     }
 
     public int breaks() {
-        return foresight.firstVoid();
+        return foresight.yearOfEntry(NONE);
     }
 
     public int praises(int man, int n, int by, int what) throws NoSuchElementException, IllegalArgumentException {
@@ -622,6 +622,7 @@ public final class ContraryChairs {
         int seats;
         int deaths;
         int praises;
+        // Of reading alone, so no copy has it.
         private boolean chairsTold;
         final int[] sides = new int[MOST_QUESTIONS];
         final int[] ages = new int[MOST_MEN];
@@ -641,7 +642,6 @@ public final class ContraryChairs {
             seats = from.seats;
             deaths = from.deaths;
             praises = from.praises;
-            chairsTold = from.chairsTold;
             System.arraycopy(from.sides, 0, sides, 0, MOST_QUESTIONS);
             System.arraycopy(from.ages, 0, ages, 0, MOST_MEN);
             System.arraycopy(from.codes, 0, codes, 0, MOST_MEN);
@@ -972,8 +972,8 @@ public final class ContraryChairs {
                 case MINUS: return a - b;
                 case TIMES: return a * b;
                 case OVER: return b == 0 ? 0 : a / b;
-                case LEAST: return Math.min(a, b);
-                default: return Math.max(a, b);
+                case LEAST: return a < b ? a : b;
+                default: return a > b ? a : b;
             }
         }
     }
@@ -1320,6 +1320,7 @@ public final class ContraryChairs {
             }
         }
 
+        /** The year in which a man is taken in; of NONE: the first that is void. */
         int yearOfEntry(int man) {
             trial.copy(now);
             for (int i = 0; i < YEARS_ON; i++) {
@@ -1328,10 +1329,6 @@ public final class ContraryChairs {
                 }
             }
             return NONE;
-        }
-
-        int firstVoid() {
-            return yearOfEntry(NONE);
         }
 
         int yearsLeft(int man) {

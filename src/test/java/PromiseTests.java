@@ -6,6 +6,8 @@ public final class PromiseTests {
     /** Four sit; the first, third and fourth agree. */
     private static final String BENCH = "question 2;man 1 0;man 2 1;man 3 0;man 4 0;chairs 5;"
         + "seat 0;seat 1;seat 2;seat 3;";
+    /** Man 0 waits, against man 1 who sits, with 2 who agrees with him. */
+    private static final String MIRROR = "question 2;man 0 1;man 1 0;man 2 1;seat 1;";
     /** Seven sit in two questions, none waits. */
     private static final String HALL = "question 3;question 2;chairs 7;man 1 0 0;man 1 1 1;man 1 0 0;man 1 2 1;"
         + "man 1 0 0;man 1 2 1;man 1 1 0;seat 0;seat 1;seat 2;seat 3;seat 4;seat 5;seat 6;";
@@ -83,6 +85,9 @@ public final class PromiseTests {
         Check.due("leading noughts", Check.academy(x, "man 007;man 0000000000000000000000000099;"), 2);
         Check.due("age", x.man(0, 0), 7);
         whatAnAcademyEnds();
+        academyFault("xan 1;", 1, 0);
+        academyFault("manz 1;", 1, 0);
+        academyFault("ma", 1, 0);
         academyFault("question 4;", 2, 9);
         academyFault("question 1;", 2, 9);
         academyFault("man 100;", 2, 4);
@@ -147,6 +152,21 @@ public final class PromiseTests {
         Check.due("nothing to restore", x.restore(), NONE);
         Check.due("no book", x.told(8), 0);
         Check.due("no law", x.score(1), 20);
+        x.praise(1, 9);
+        x.years(4);
+        x.die(2);
+        x.die(0);
+        Check.academy(x, "question 2;man 0 1;man 7 0;seat 1;");
+        Check.dueAll("no sums", sums(x), 0, 0, 0, 0);
+        Check.due("no praise aside", x.score(0), 10);
+        Check.dueAll("a man anew", man(x, 0), 0, 0, NONE, 0, NONE);
+        Check.dueAll("no deaths, no praise, usual chairs", new int[] {x.told(6), x.told(7), x.told(2)}, 0, 0, 6);
+        for (int i = 0; i < 12; i++) {
+            x.praise(0, 1);
+        }
+        Check.due("twelve aside", x.score(0), 22);
+        Check.academy(x, MIRROR);
+        Check.due("and room for more", x.praise(0, 1), 1);
     }
 
     private static void lawFault(String text, int fault, int place) {
@@ -197,6 +217,8 @@ public final class PromiseTests {
         lawScore("7 - 2 - 1", 1, 4);
         lawScore("2 + 3 * 4", 1, 14);
         lawScore("(2 + 3) * 4", 1, 20);
+        lawScore("most[2, number]", 3, 3);
+        lawScore("least[number, 2] + most[0, 5] * 2", 3, 12);
         lawScore("100 / 7 / 2", 1, 7);
         lawScore("7 / 2 * 2", 1, 6);
         lawScore("(0 - 7) / 2", 1, -3);
@@ -229,6 +251,9 @@ public final class PromiseTests {
         lawFault("((((((most", 3, 6);
         lawFault("least[most[(((((1))))),2],1]", 3, 15);
         lawFault("((((((void", 1, 6);
+        lawFault("least[((((((1)))))),1]", 3, 11);
+        lawFault("least[1,((((((1))))))]", 3, 13);
+        lawFault("xiffers", 1, 0);
         lawFault("1;", 1, 1);
     }
 
@@ -295,6 +320,7 @@ public final class PromiseTests {
             told[what] = x.told(what);
         }
         Check.dueAll("told", told, 2, 5, 3, 4, 3, 1, 1, 1, 2);
+        Check.due("the first man waits", Check.with(MIRROR).told(5), 2);
         Check.unfit("what 9", () -> x.told(9));
         Check.unfit("what -1", () -> x.told(-1));
 
@@ -363,6 +389,10 @@ public final class PromiseTests {
         Check.due("the empty row's", Check.with("man 1;praise 1 0 9;").score(0), 0);
         ContraryChairs dies = Check.with("question 2;man 1 0;man 1 1;man 1 1;seat 0;seat 1;dies 1 1;");
         Check.due("ahead of the year's deaths", dies.score(2), 0);
+        ContraryChairs mirror = Check.with(MIRROR);
+        Check.due("the first man's", mirror.score(0), 10);
+        mirror.years(3);
+        Check.due("the first man's, who waited", mirror.score(0), 10 + 3);
         Check.unknown("man 5", () -> x.score(5));
     }
 
@@ -385,6 +415,9 @@ public final class PromiseTests {
         Check.due("nobody sits: the eldest", Check.with("man 3;man 5;man 5;").next(), 1);
         Check.due("behind deaths", Check.with("question 2;man 1 0;man 1 1;man 1 1;seat 0;seat 1;dies 1 1;").next(), 2);
         Check.due("nobody left", Check.with("man 1;dies 1 0;").next(), NONE);
+        Check.due("the first man", Check.with("question 2;man 1 1;man 1 0;seat 1;").next(), 0);
+        Check.due("the first man against another", Check.with(MIRROR).next(), NONE);
+        Check.due("the eldest is the first", Check.with("man 9;man 5;").next(), 0);
 
         Check.begin("promise 15, years");
         ContraryChairs y = Check.with(SALON);
@@ -439,6 +472,16 @@ public final class PromiseTests {
         Check.due("over an image()", u.undo(9), 1);
         u.restore();
         Check.due("to the latest restore()", u.undo(9), 0);
+        ContraryChairs r = Check.with(SALON);
+        r.years(2);
+        r.image();
+        r.years(2);
+        r.restore();
+        Check.due("none ahead of restore()", r.undo(9), 0);
+        Check.due("year 3 again", r.told(3), 3);
+        r.years(2);
+        Check.due("two behind it", r.undo(9), 2);
+        Check.due("back at restore()", r.told(3), 3);
 
         Check.begin("promise 17, taken");
         ContraryChairs t = Check.with(SALON);
@@ -450,6 +493,9 @@ public final class PromiseTests {
         Check.due("far behind", t.taken(Integer.MAX_VALUE), -2);
         t.undo(1);
         Check.due("undone", t.taken(4), -2);
+        ContraryChairs first = Check.with("man 1;man 2;dies 1 1;");
+        first.years(2);
+        Check.dueAll("the first man", new int[] {first.taken(1), first.taken(2)}, 0, NONE);
 
         Check.begin("promise 18, sums");
         ContraryChairs s = Check.with(SALON);
@@ -471,6 +517,10 @@ public final class PromiseTests {
         Check.due("the last one", Check.with(BENCH).die(3), 1);
         Check.due("neighbours who differ", Check.with("question 2;man 1 0;man 1 0;man 1 1;man 1 1;"
             + "seat 0;seat 1;seat 2;seat 3;").die(1), 1);
+        Check.due("each against the one ahead of the gap", Check.with("question 2;man 1 1;man 1 0;man 1 1;man 1 0;man 1 0;"
+            + "seat 0;seat 1;seat 2;seat 3;seat 4;").die(2), 3);
+        Check.due("not against the one ahead of him", Check.with("question 2;man 1 1;man 1 0;man 1 0;man 1 1;"
+            + "seat 0;seat 1;seat 2;seat 3;").die(2), 1);
         Check.due("only those in the gap", Check.with("question 2;man 1 0;man 1 1;man 1 0;man 1 1;man 1 1;"
             + "seat 0;seat 1;seat 2;seat 3;seat 4;").die(1), 2);
         Check.due("one who waits", Check.with(SALON).die(1), 1);
@@ -561,6 +611,13 @@ public final class PromiseTests {
         Check.due("the 60th year", far.when(1), 60);
         far.years(60);
         Check.due("who sits by then", far.when(1), NONE);
+        ContraryChairs farther = Check.with("man 1;man 1;seat 0;");
+        Check.law(farther, "year - 60");
+        Check.due("the 61st", farther.when(1), NONE);
+        Check.due("by the death of him who sits, at once", farther.heir(0), 1);
+        farther.years(1);
+        Check.due("the 60th from year 2 on", farther.when(1), 61);
+        Check.due("the first man", Check.with("question 2;man 1 1;man 1 0;seat 1;").when(0), 1);
 
         Check.begin("promise 23, breaks");
         Check.due("the salon", x.breaks(), 2);
@@ -568,7 +625,7 @@ public final class PromiseTests {
         ContraryChairs b = Check.with(SALON);
         b.years(2);
         Check.due("from year 3 on", b.breaks(), 5);
-        Check.due("never: men enough", Check.with("question 2;man 1 0;man 1 1;seat 0;").breaks(), 2);
+        Check.due("nobody left", Check.with("question 2;man 1 0;man 1 1;seat 0;").breaks(), 2);
 
         Check.begin("promise 24, praises");
         Check.due("one year", x.praises(4, 1, 30, 0), 1);
@@ -593,6 +650,11 @@ public final class PromiseTests {
         Check.due("two years", three.praises(3, 2, 5, 0), 2);
         Check.due("another one, then he", three.praises(3, 2, 5, 1), 204);
         Check.due("nobody ahead of both", three.praises(3, 3, 5, 1), 204);
+        ContraryChairs mirror = Check.with(MIRROR);
+        Check.due("the first man", mirror.praises(0, 2, 1, 0), 1);
+        Check.due("the first man, late", mirror.praises(0, 2, 1, 1), 1);
+        Check.due("the first man, at once", mirror.praises(0, 1, 99, 1), 1);
+        Check.due("by praise of the first man", mirror.praises(2, 2, 5, 0), 1);
         Check.unknown("man 5", () -> x.praises(5, 9, 9, 9));
         Check.unfit("0 years", () -> x.praises(1, 0, 1, 0));
         Check.unfit("4 years", () -> x.praises(1, 4, 1, 0));
@@ -646,6 +708,9 @@ public final class PromiseTests {
         Check.due("0, or 1's own side", z.beliefs(0, 1), 1);
         Check.due("1", z.sure(0, 0), 1);
         Check.due("0", z.sure(1, 0), NONE);
+        ContraryChairs third = Check.with("question 3;man 1 0;man 1 1;man 1 2;seat 0;");
+        Check.book(third, "1 1;");
+        Check.due("as 2 believes, against 1", third.sure(0, 0), 2);
         Check.unknown("man 3", () -> z.sure(3, 0));
         Check.unknown("question 1", () -> z.sure(0, 1));
 
@@ -696,6 +761,8 @@ public final class PromiseTests {
         Check.due("0", y.ring(0, 0), 2);
         Check.due("3 comes to 0 and 1", y.ring(3, 0), 2);
         Check.due("the least", y.ring(3, 1), 0);
+        Check.due("the least, from 1 on", y.ring(1, 1), 0);
+        Check.due("the least, from 4 on", y.ring(4, 1), 0);
         Check.due("without an enemy", Check.with("man 1;").ring(0, 0), 0);
         Check.due("without an enemy, the least", Check.with("man 1;").ring(0, 1), NONE);
         ContraryChairs three = Check.with("question 2;man 1 0;man 1 0;man 1 0;");
@@ -767,6 +834,10 @@ public final class PromiseTests {
         Check.due("who dies this year may be praised", sole.patrons(1, 2, 5, 0), 7);
         Check.unknown("man 5", () -> x.patrons(5, 1, 0, 0));
         Check.unknown("other 5", () -> x.patrons(1, 5, 0, 0));
+        Check.due("by 1, the least there is", x.patrons(1, 3, 1, 0), 25);
+        ContraryChairs mirror = Check.with(MIRROR);
+        Check.due("the first man's patron", mirror.patrons(0, 2, 5, 0), 5);
+        Check.due("the first man's patron alone", mirror.patrons(0, 2, 5, 1), 3);
         Check.unfit("they are one", () -> x.patrons(1, 1, 5, 0));
         Check.unfit("one sits", () -> x.patrons(0, 3, 5, 0));
         Check.unfit("the other sits", () -> x.patrons(3, 0, 5, 0));
@@ -783,6 +854,7 @@ public final class PromiseTests {
         Check.begin("promise 36, allies");
         Check.due("4", x.allies(0), 16);
         Check.due("none", x.allies(1), 0);
+        Check.due("0", x.allies(4), 1);
         x.die(4);
         Check.due("dead or alive", x.allies(0), 16);
         Check.unknown("man 5", () -> x.allies(5));
@@ -791,6 +863,8 @@ public final class PromiseTests {
         Check.begin("promise 37, rank");
         Check.dueAll("all", new int[] {y.rank(0), y.rank(1), y.rank(2), y.rank(3), y.rank(4)}, 3, 1, 0, 2, 3);
         Check.due("nobody sits", Check.with("man 1;man 2;").rank(0), 0);
+        Check.due("the first man and 2 are greater", Check.with(MIRROR).rank(1), 2);
+        Check.due("as much is not greater", Check.with(MIRROR).rank(2), 0);
         Check.unknown("man 5", () -> y.rank(5));
 
         Check.begin("promise 38, lead");
@@ -805,6 +879,12 @@ public final class PromiseTests {
         ContraryChairs low = Check.with("man 1;man 1;man 1;seat 0;");
         Check.law(low, "number - 9");
         Check.due("both below 0", low.lead(), 1);
+        ContraryChairs mixed = Check.with("man 20;man 14;man 17;man 1;seat 3;");
+        Check.law(mixed, "age");
+        Check.due("20 above 17", mixed.lead(), 3);
+        ContraryChairs last = Check.with("man 14;man 17;man 20;man 1;seat 3;");
+        Check.law(last, "age");
+        Check.due("20 above 17, found last", last.lead(), 3);
 
         Check.begin("promise 39, wants");
         ContraryChairs w = Check.with(SALON);
@@ -831,6 +911,8 @@ public final class PromiseTests {
         Check.begin("promise 41, doomed");
         Check.due("2 and 3", bench.doomed(1), 12);
         Check.due("none", bench.doomed(0), 0);
+        Check.due("the first man, who sits last", Check.with("question 2;man 1 0;man 1 1;man 1 0;"
+            + "seat 2;seat 1;seat 0;").doomed(1), 1);
         Check.due("3, the neighbour behind 2? it stands at the end", bench.doomed(3), 0);
         Check.due("who waits", w.doomed(1), 0);
         Check.due("nothing stays changed", bench.told(4), 4);
@@ -868,6 +950,8 @@ public final class PromiseTests {
         Check.due("lost in between", salon.quorum(0), 3);
         Check.due("found late", salon.quorum(1), 2);
         Check.due("nobody", Check.with("question 2;").quorum(0), 0);
+        Check.due("all, by the odd ones", Check.with("question 2;man 1 1;man 1 0;man 1 1;man 1 0;man 1 0;man 1 0;"
+            + "seat 0;seat 1;seat 2;seat 3;seat 4;seat 5;").quorum(0), 4);
         Check.unknown("question 2", () -> hall.quorum(2));
 
         Check.begin("promise 46, kin");
@@ -883,6 +967,12 @@ public final class PromiseTests {
         Check.due("two alike for all 60 years", Check.with(alike).heir(0), NONE);
         ContraryChairs h = Check.with(alike + "praise 60 3 5;");
         Check.due("in year 60", h.heir(0), 3);
+        ContraryChairs slow = Check.with("man 1;man 1;man 1;seat 0;seat 1;");
+        // With no question all agree, so 1 is ahead of the gap and nobody else leaves.
+        Check.law(slow, "year - 60");
+        Check.due("the 61st year is too late", slow.heir(0), NONE);
+        slow.years(1);
+        Check.due("the 60th is not", slow.heir(0), 2);
         Check.due("nothing stays changed", h.told(4), 2);
         Check.unknown("man 5", () -> w.heir(5));
     }
@@ -900,6 +990,26 @@ public final class PromiseTests {
         ContraryChairs later = Check.with(SALON);
         later.years(3);
         Check.dueAll("of these years alone", fates(later, 5, 0, 2), 3, 1, 0, 1);
+        StringBuilder twelve = new StringBuilder("chairs 12;question 2;");
+        for (int i = 0; i < 13; i++) {
+            twelve.append("man 1 ").append(i % 2).append(';');
+        }
+        for (int i = 0; i < 12; i++) {
+            twelve.append("seat ").append(i).append(';');
+        }
+        ContraryChairs full = Check.with(twelve.toString());
+        Check.dueAll("twelve die, the thirteenth is taken in", fates(full, 1, 16, 1), 1, 0, 12, 12);
+        Check.dueAll("the twelfth is the last, the thirteenth the next", new int[] {full.ahead(0, 0), full.ahead(1, 0),
+            full.ahead(1, 1), full.stays(0)}, 11, 12, 12, 1);
+        // Seed 5 draws 15 9 8 5 1 12 8 in year 1.
+        ContraryChairs hall = Check.with(HALL);
+        for (int q = 0; q <= 16; q++) {
+            int due = 0;
+            for (int drawn : new int[] {15, 9, 8, 5, 1, 12, 8}) {
+                due += drawn < q ? 1 : 0;
+            }
+            Check.due("deaths by " + q, hall.fates(5, q, 1, 2), due);
+        }
         // 1 dies by his draw, 2 leaves by it, and who left dies by his own draw all the same.
         ContraryChairs left = Check.with("question 2;man 1 0;man 1 1;man 1 0;seat 0;seat 1;seat 2;");
         Check.due("all three die", left.fates(9, 16, 1, 2), 3);
@@ -922,6 +1032,10 @@ public final class PromiseTests {
         }
         Check.due("fewest", x.span(Integer.MAX_VALUE - 5, 20, 4, 9, 0, 0), fewest);
         Check.due("most", x.span(Integer.MAX_VALUE - 5, 20, 4, 9, 1, 0), most);
+        // Seed 2 draws 12, and seed 0 would draw 0.
+        Check.due("seeds 1 and 2", x.span(1, 2, 7, 1, 2, 0), 1);
+        Check.due("the last man", x.span(1, 1, 0, 1, 2, 4), 0);
+        Check.due("the last man, who is taken in", x.span(1, 2, 16, 1, 2, 4), 2);
         Check.due("two seeds, one death", x.span(1, 1, 7, 1, 2, 0) + x.span(1, 1, 6, 1, 2, 0), 1);
         Check.unfit("no seeds", () -> x.span(1, 0, 0, 1, 0, 0));
         Check.unfit("21 seeds", () -> x.span(1, 21, 0, 1, 0, 0));
@@ -983,10 +1097,12 @@ public final class PromiseTests {
         Check.unknown("man 9", () -> s.score(9));
         Check.unknown("man 9", () -> s.man(9, 9));
         Check.unfit("what 9", () -> s.told(9));
+        Check.unknown("question 9", () -> s.sides(9));
+        Check.unknown("question 9", () -> s.vote(9, 0, 0));
         s.restore();
-        Check.dueAll("no image keeps it", new int[] {s.status(0), s.status(1)}, 2, 1);
+        Check.dueAll("no image keeps it", new int[] {s.status(0), s.status(1)}, 4, 1);
         Check.academy(s, "man 1;");
-        Check.dueAll("nor does an academy end it", new int[] {s.status(0), s.status(1)}, 2, 1);
+        Check.dueAll("nor does an academy end it", new int[] {s.status(0), s.status(1)}, 4, 1);
         Check.due("others", s.status(2), NONE);
         Check.due("others", s.status(-1), NONE);
 
