@@ -108,4 +108,88 @@ final class Check {
         }
         return x;
     }
+
+    static String times(int n, String text) {
+        return text.repeat(n);
+    }
+
+    /** So many men of an age, who believe nothing. */
+    static String men(int n) {
+        return times(n, "man 1;");
+    }
+
+    /** Seats for the first n men, in their order. */
+    static String seats(int n) {
+        StringBuilder s = new StringBuilder();
+        for (int man = 0; man < n; man++) {
+            s.append("seat ").append(man).append(';');
+        }
+        return s.toString();
+    }
+
+    /** One question, and for each digit a man of that side; all of them sit. */
+    static String bench(String sides) {
+        StringBuilder s = new StringBuilder("question 3;chairs 12;");
+        for (int i = 0; i < sides.length(); i++) {
+            s.append("man 1 ").append(sides.charAt(i)).append(';');
+        }
+        return s + seats(sides.length());
+    }
+
+    /** A new object with this academy and this law, both without fault. */
+    static ContraryChairs with(String text, String law) {
+        ContraryChairs x = with(text);
+        if (law(x, law) != 1) {
+            wrong("law " + law + " has a fault at " + x.fault());
+        }
+        return x;
+    }
+
+    static int[] row(ContraryChairs x) {
+        int[] row = new int[x.told(4)];
+        for (int chair = 0; chair < row.length; chair++) {
+            row[chair] = x.chair(chair);
+        }
+        return row;
+    }
+
+    static int[] sums(ContraryChairs x) {
+        return new int[] {x.sums(0), x.sums(1), x.sums(2), x.sums(3)};
+    }
+
+    /** What can be seen of the state in some 250 calls at most, but for refusals and the fault of the latest text. */
+    static int[] state(ContraryChairs x) {
+        java.util.List<Integer> seen = new java.util.ArrayList<>();
+        for (int what = 0; what <= 8; what++) {
+            seen.add(x.told(what));
+        }
+        for (int question = 0; question < x.told(0); question++) {
+            seen.add(x.sides(question));
+        }
+        for (int man = 0; man < x.told(1); man++) {
+            for (int what = 0; what <= 4; what++) {
+                seen.add(x.man(man, what));
+            }
+            for (int question = 0; question < x.told(0); question++) {
+                seen.add(x.believes(man, question));
+            }
+            seen.add(x.score(man));
+        }
+        for (int year = 1; year < x.told(3) && year < 20; year++) {
+            seen.add(x.taken(year));
+        }
+        for (int each : row(x)) {
+            seen.add(each);
+        }
+        for (int each : sums(x)) {
+            seen.add(each);
+        }
+        seen.add(x.next());
+        seen.add(x.ahead(9, 0));
+        seen.add(x.right());
+        for (int what = 0; what <= 2; what++) {
+            seen.add(x.count(what));
+        }
+        return seen.stream().mapToInt(Integer::intValue).toArray();
+    }
 }
