@@ -21,6 +21,7 @@ public final class AskedEdges {
 
     public static void main(String[] args) throws Exception {
         nothingStaysChanged();
+        nothingIsLeft();
         ahead();
         when();
         breaks();
@@ -82,6 +83,55 @@ public final class AskedEdges {
             m.invoke(x, a);
             Check.dueAll("behind " + m.getName(), Check.state(x), was);
         }
+    }
+
+    private static void nothingIsLeft() throws Exception {
+        Check.begin("3: nothing of a greater ACADEMY told ahead is left, whatever is asked");
+        for (Method m : ContraryChairs.class.getDeclaredMethods()) {
+            if (Modifier.isPublic(m.getModifiers()) && !List.of("feed", "academy", "law", "book", "status")
+                .contains(m.getName())) {
+                for (int n = 0; n <= 3; n++) {
+                    ContraryChairs used = small(great());
+                    ContraryChairs fresh = small(new ContraryChairs());
+                    Object[] a = new Object[m.getParameterCount()];
+                    for (int i = 0; i < a.length; i++) {
+                        a[i] = m.getName().equals("patrons") && i == 0 ? 2 - n % 2 * 2 : i < 2 ? n : 1;
+                    }
+                    Check.due(m.getName() + " " + java.util.Arrays.toString(a), answer(m, used, a), answer(m, fresh, a));
+                    Check.dueAll("state", Check.state(used), Check.state(fresh));
+                }
+            }
+        }
+    }
+
+    private static int answer(Method m, ContraryChairs x, Object[] a) throws Exception {
+        try {
+            return (int) m.invoke(x, a);
+        } catch (java.lang.reflect.InvocationTargetException e) {
+            return e.getCause() instanceof java.util.NoSuchElementException ? -1000 : -2000;
+        }
+    }
+
+    /** Much of all that there can be, and some years of it; man 4, one behind the small one's last, waits. */
+    private static ContraryChairs great() {
+        ContraryChairs x = Check.with("question3;question3;question3;chairs12;" + Check.times(8, "man9 0 1 2;man50 2 1 0;")
+            + Check.seats(10).replace(" ", "").replace("seat4;", "seat10;") + Check.times(6, "dies1 0;dies2 1;") + Check.times(6, "praise1 2 9;praise2 3 9;"));
+        Check.law(x, "999 * (number + 1) + 999 * (number + 1)");
+        Check.book(x, "1 0;1 1;1 2;1 3;2 4;2 5;2 6;2 7;3 8;3 9;3 10;3 11;");
+        x.beliefs(3, 0);
+        x.praises(12, 2, 9, 0);
+        x.patrons(14, 12, 9, 0);
+        x.years(3);
+        x.praise(12, 9);
+        x.image();
+        return x;
+    }
+
+    private static ContraryChairs small(ContraryChairs x) {
+        Check.academy(x, "question 2;man 30 0;man 20 1;man 10 1;man 9 0;seat 1;praise 3 2 1;dies 4 3;");
+        Check.book(x, "1 void;");
+        x.praise(2, 3);
+        return x;
     }
 
     // ---- promises 21 to 24
@@ -198,6 +248,13 @@ public final class AskedEdges {
         Check.dueAll("in the first YEAR alone", praises(x, 1, 3, 1), 1, 20000);
         Check.dueAll("of 2", praises(x, 1, 2, 1), 1, 200);
         Check.dueAll("of 1", praises(x, 1, 1, 1), 1, 2);
+        Check.begin("24: one MAN who is WAITING then: the only one, between two who sit");
+        x = Check.with("man 1;man 1;man 1;seat 0;seat 2;", "0");
+        Check.dueAll("the one in the middle", praises(x, 1, 1, 1), 1, 2);
+        x = Check.with("man 1;man 1;man 1;seat 1;seat 2;", "0");
+        Check.dueAll("the first", praises(x, 0, 1, 1), 1, 1);
+        x = Check.with("man 1;man 1;man 1;seat 0;seat 1;", "0");
+        Check.dueAll("the last", praises(x, 2, 1, 1), 1, 3);
         Check.begin("24: digits to the base 100 (each MAN and 1)");
         x = Check.with("chairs 2;" + Check.men(16) + "seat 7;", "3 - 2 * year");
         Check.dueAll("the last MAN", praises(x, 15, 3, 1), 1, 160000);
